@@ -69,6 +69,13 @@ public final class ActsTest {
         x.lay(0, 37, 0);
         due.finds("all wait for themselves", x, x.acts(0), UNLIKE);
         due.is("act(12)", x.act(12), 1199);
+        x.lay(0, 37, 13);
+        due.finds("no such number", x, x.acts(0), UNLIKE);
+        CityRoad y = new CityRoad();
+        Due.rowOf(y, 0, 0, NONE, NONE, 0, 0, NONE);
+        due.is("no days at all", y.acts(0), 0);
+        act(y, 0, 0, 0);
+        act(y, 1, 0, 0);
     }
 
     private static void wrongActs(int finding, int... numbers) {

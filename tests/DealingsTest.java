@@ -12,6 +12,7 @@ public final class DealingsTest {
         whitherTooFew();
         whitherChains();
         fall();
+        fallAtTheCorner();
         fallByWeeks();
         noise();
         parks();
@@ -218,6 +219,20 @@ public final class DealingsTest {
         due.is("none is fewer than 0", x.fall(0, 20), 0);
     }
 
+    private static void fallAtTheCorner() {
+        CityRoad x = fresh();
+        x.building(1, 0, 9, 10);
+        x.building(8, 1, 0, 10);
+        x.person(0, NONE, true, 1);
+        x.person(0, NONE, true, 1);
+        for (int c = 2; c < 64; c += 8) x.cell(c, 4, 0);
+        x.line(9, 17, 0);
+        due.is("by the corner", x.fall(0, 1), 0);
+        x.cell(0, 4, 0);
+        due.is("WATER there", x.fall(0, 1), 1);
+        due.is("set()", x.set(), 2);
+    }
+
     private static void fallByWeeks() {
         CityRoad x = fresh();
         // who walks to a SHOP that stays open stays with it: no later week closes more than the first one
@@ -274,11 +289,18 @@ public final class DealingsTest {
         due.is("a long ROW", x.noise(0, 1), 0);
         x.row(1, 0);
         due.is("an empty ROW", x.noise(0, 1), 0);
+        Due.ruleOf(x, "N0", 0);
+        x.line(1, 2, 0);
+        x.ramp(1, 0);
+        x.row(1, 15);
+        x.lay(1, 14, 1);
+        due.is("14 steps", x.noise(2, 1), 1);
+        due.is("none is so far", x.noise(1, 1), 0);
         due.finds("a missing ROW", x, x.noise(0, 5), NOTHING);
         due.is("noise(0, 6)", x.noise(0, 6), BAD);
         due.is("noise(0, -1)", x.noise(0, -1), BAD);
         x.grant(1, 1);
-        due.finds("UNLIKE ahead of NOTHING", x, x.noise(1, 5), UNLIKE);
+        due.finds("UNLIKE ahead of NOTHING", x, x.noise(3, 5), UNLIKE);
         Due.rowOf(x, 1, 1);
         due.is("HOUSES that STAND", x.noise(0, 1), 1);
         x.show(0);

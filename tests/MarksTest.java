@@ -104,6 +104,15 @@ public final class MarksTest {
         due.is("line(0, 1, 6)", x.line(0, 1, 6), BAD);
         due.is("line(0, 1, -1)", x.line(0, 1, -1), BAD);
         due.is("line(5, 5, 0)", x.line(5, 5, 0), BAD);
+        Due.rowOf(x, 5, 0, 0, 0, 0, 5000);
+        x.row(5, 4);
+        due.is("what was behind its end is no cost", x.line(0, 9, 5), 0);
+        x = new CityRoad();
+        Due.rowOf(x, 0, 0, 1000, 0, 1000);
+        Due.rowOf(x, 1, 1, 2, 3);
+        Due.rowOf(x, 2, 1, 2, 3, 1001);
+        Due.rowOf(x, 3, -1, 2, 3, 4);
+        Due.rowOf(x, 4, 1, 2, 3, 4, 5);
         x.cell(1, 4, 0);
         due.finds("line(0, 1, 5)", x, x.line(0, 1, 5), NOTHING);
         due.finds("line(0, 1, 1)", x, x.line(0, 1, 1), SIZE);

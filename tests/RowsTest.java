@@ -135,6 +135,9 @@ public final class RowsTest {
         fault("S1X", 2);
         fault("SS1", 1);
         fault("S-1", 1);
+        fault("S/", 1);
+        fault("S1:", 2);
+        fault("S1/", 2);
         fault("S1 \t", 3);
         CityRoad x = new CityRoad();
         Due.textOf(x, 0, "S1");

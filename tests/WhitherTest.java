@@ -13,16 +13,17 @@ public final class WhitherTest {
         CityRoad x = new CityRoad();
         Due.rowOf(x, 0, 0, 0, 0, 0);
         x.building(0, 0, 20, 1);
-        x.building(1, 0, 20, 1);
+        boolean full = run % 3 == 0;
+        if (!full) x.building(1, 0, 20, 1);
         int[] cells = new int[32], rooms = new int[32];
-        int houses = 1 + chance.nextInt(28), places = 0;
+        int houses = full ? 31 : 1 + chance.nextInt(28), places = 0;
         for (int i = 0; i < houses; i++) {
-            cells[i] = 8 + chance.nextInt(56);
-            rooms[i] = chance.nextInt(1 + run % 7);
+            cells[i] = full ? 10 + i : 8 + chance.nextInt(56);
+            rooms[i] = full && run % 2 == 0 ? 1 : chance.nextInt(1 + run % 7);
             if (x.building(cells[i], 0, rooms[i], 1) < 0) rooms[i] = 0;
             places += rooms[i];
         }
-        int people = chance.nextInt(41);
+        int people = chance.nextInt(full ? 21 : 41);
         int[] works = new int[people];
         for (int p = 0; p < people; p++) {
             works[p] = chance.nextInt(8) == 0 ? CityRoad.NONE : chance.nextInt(64);

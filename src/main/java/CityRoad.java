@@ -1809,6 +1809,7 @@ public final class CityRoad {
             int node = b;
             for (int links = 0; links < NODES && node != Ground.CELLS + a; links++) {
                 int from = before[node];
+                if (from == NONE) return;
                 int here = node % Ground.CELLS;
                 int there = from % Ground.CELLS;
                 boolean arrives = node < Ground.CELLS;
