@@ -1775,7 +1775,7 @@ public final class CityRoad {
             Arrays.fill(before, NONE);
             queued = 0;
             visit(Ground.CELLS + a, Ground.CELLS + a);
-            for (int head = 0; head < queued && before[b] == NONE; head++) {
+            for (int head = 0; head < NODES && head < queued && before[b] == NONE; head++) {
                 int node = queue[head];
                 if (node >= Ground.CELLS) leave(node - Ground.CELLS);
                 else enter(node, Ground.has(breakable, node) ? 1 : NO_END);
