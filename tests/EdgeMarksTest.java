@@ -35,6 +35,7 @@ public final class EdgeMarksTest {
         movedOrder();
         movedState();
         movedRooms();
+        movedTwice();
         grantNumbers();
         hearingNumbers();
         hearingDays();
@@ -648,6 +649,27 @@ public final class EdgeMarksTest {
     }
 
     // ---- promises 27, 28
+
+    /** Whoever lived there as it was TAKEN may be led by that TAKING each time that they live nowhere. */
+    private static void movedTwice() {
+        CityRoad x = new CityRoad();
+        for (int c = 0; c < 3; c++) x.building(c, 0, 1, 100);
+        x.building(40, 0, 1, 100);
+        x.person(0, NONE, false, 0);
+        int l = Edge.shownLine(x, 0, 2);
+        int first = x.take(0, l);
+        due.is("by the first TAKING", x.moved(first, 0, 1), 2);
+        edge.refused("lives somewhere again", x, y -> y.moved(first, 0, 3), STATE);
+        int second = x.take(1, l);
+        due.is("by the first TAKING again", x.moved(first, 0, 2), 4);
+        due.tells("told(4, 2)", x, x.told(4, 2), first);
+        x.take(2, l);
+        due.is("by the second TAKING", x.moved(second, 0, 3), 6);
+        due.tells("told(6, 2)", x, x.told(6, 2), second);
+        due.tells("who(0, 0)", x, x.who(0, 0), 3);
+        x.owed();
+        due.is("coins(): three TAKINGS, M three times", x.coins(), 3 * 100 + 3 * 50);
+    }
 
     private static void grantNumbers() {
         edge.span("grant(tenths, 5)", CityRoad::new, 1, 10, (x, tenths) -> x.grant(tenths, 5), 0);

@@ -1,4 +1,5 @@
 import java.io.ByteArrayOutputStream;
+import java.io.File;
 import java.io.IOException;
 import java.io.PrintStream;
 import java.net.URL;
@@ -17,10 +18,12 @@ import javax.tools.ToolProvider;
 /** The example in README.md compiles, and prints behind each println what its comment says. */
 public final class ReadmeTest {
     private static final String NAME = "ReadmeExample";
+    private static final String CLASSES = System.getProperty("java.class.path");
 
     public static void main(String[] args) throws Exception {
         String example = example(Files.readString(Path.of("README.md")));
-        Path place = Files.createTempDirectory("readme");
+        // beside the classes of the tests: there .ci/run may write
+        Path place = Files.createTempDirectory(Path.of(CLASSES.split(File.pathSeparator)[0]), "readme");
         try {
             List<String> want = promised(example);
             List<String> got = printed(example, place);
@@ -52,8 +55,8 @@ public final class ReadmeTest {
         Path source = place.resolve(NAME + ".java");
         Files.writeString(source, "public final class " + NAME + " {\n public static void main(String[] args) {\n" + example + " }\n}\n");
         JavaCompiler compiler = ToolProvider.getSystemJavaCompiler();
-        String classes = System.getProperty("java.class.path");
-        if (compiler.run(null, null, null, "-cp", classes, "-d", place.toString(), source.toString()) != 0) {
+        if (compiler == null) throw new IllegalStateException("there is no javac");
+        if (compiler.run(null, null, null, "-cp", CLASSES, "-d", place.toString(), source.toString()) != 0) {
             throw new IllegalStateException("the example does not compile");
         }
         PrintStream before = System.out;
